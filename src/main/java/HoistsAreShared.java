@@ -650,12 +650,13 @@ public final class HoistsAreShared {
         return mind.apartAfter(n);
     }
 
-    /** By how much PULL is more if a THING is hung on the other side: there it is SINCE now, so it may weigh another. */
+    /** By how much PULL is more if a THING is hung on the other side. */
     private void reckonShifts() {
         mind.copy(now);
         for (int i = 0; i < now.things && i < shifts.length; i++) {
             int place = now.placeOf(i);
-            mind.put(i, Hoist.otherPlace(place));
+            // Hung anew it is there SINCE now, and may weigh another than where it leaves.
+            mind.put(i, place);
             int moved = now.weighs(i, 0) + mind.weighs(i, 0);
             shifts[i] = place == 0 ? -moved : moved;
         }
@@ -1042,10 +1043,6 @@ public final class HoistsAreShared {
                 }
             }
             return bits;
-        }
-
-        static int otherPlace(int place) {
-            return isSide(place) ? 1 - place : place;
         }
 
         // ---- How it goes

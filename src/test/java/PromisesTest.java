@@ -366,6 +366,11 @@ public final class PromisesTest {
         due(5, "how far the other", x.side(1, 5), 14);
         due(5, "REFUSALS -2", x.count(12), 2);
         due(5, "REFUSALS -1", x.count(11), 2);
+        HoistsAreShared far = told("d00;d05;d15;f00;");
+        due(5, "20 away", far.side(0, 4), 20);
+        due(5, "20 away: how far", far.side(0, 5), 20);
+        HoistsAreShared s = told("n04;ts30;");
+        due(5, "WEIGHT now, not on the next DAY", s.side(0, 2), 14);
     }
 
     private static void hangs() {
@@ -572,6 +577,14 @@ public final class PromisesTest {
         due(17, "at once", x.strikes(0), 0);
         x.lifts(0);
         due(17, "at once at 0", x.strikes(0), 0);
+        // Two THOUGHTS, one 2 DAYS older: from 40 DAYS on PULL is 1 more, 4 on the light DAYS of the SEASON alone,
+        // which are behind 40, 41, 42, 48 .. 52, 58, 59, 60, 61: the eleventh is behind 60.
+        HoistsAreShared late = told("tt01;n02;tt00;ts01;b015;f11;");
+        due(17, "behind 60", late.strikes(0), 60);
+        late.lifts(12);
+        due(17, "behind 61", late.strikes(0), -9);
+        late.lifts(9);
+        due(17, "the ninth", late.strikes(0), 58);
         due(17, "what 2", x.strikes(2), -2);
         due(17, "what -1", x.strikes(-1), -2);
     }
@@ -592,13 +605,18 @@ public final class PromisesTest {
         due(17, "PULL on DAY 0", z.pull(0), -4);
         due(17, "PULL on DAY 5", z.pull(5), 4);
         due(17, "never still", z.strikes(1), -9);
-        // A THOUGHT of 0: PULL 4 on DAY 10 + k is the first to go: so none goes for 10 DAYS with k 1 or more.
+        // A THOUGHT of 0: with PULL 4 on DAY 10 it goes on the tenth DAY, with BALLAST 1 less two DAYS later.
         HoistsAreShared w = told("tt00;b008;");
         due(17, "PULL on DAY 9", w.pull(9), 3);
         due(17, "PULL on DAY 10", w.pull(10), 4);
         due(17, "9 DAYS are not 10: held at 0", w.strikes(1), w.strikes(0));
         w.loads(0, 7);
         due(17, "11 DAYS are", w.strikes(1), 0);
+        // It goes by turns five up and five down until 40 DAYS on, then down alone, behind 40 .. 44, 50 .. 54 and 60.
+        HoistsAreShared late = told("n03;tt01;n02;tt00;ts30;b003;f10;");
+        due(17, "held from behind 60 on", late.strikes(1), 60);
+        late.lifts(11);
+        due(17, "held from behind 61 on", late.strikes(1), -9);
     }
 
     private static void door() {
@@ -710,9 +728,18 @@ public final class PromisesTest {
         due(22, "it is hung SINCE now", w.change(), 1);
         due(22, "where it is", w.thing(0, 2), 0);
         due(22, "its SINCE", w.thing(0, 3), 0);
-        // From the other side: PULL -14 + .. likewise.
         HoistsAreShared v = told("tt31;n20;b114;");
         due(22, "an old THOUGHT ON the other", v.change(), 1);
+        // PULL 8 + 11: each takes 2 of it, 3 is left behind all eight; with 9, behind seven.
+        HoistsAreShared all = told("th00;".repeat(8) + "b021;");
+        due(22, "all eight", all.change(), 255);
+        all.loads(0, 19);
+        due(22, "seven", all.change(), 127);
+        // A SEASON on DAY 4 weighs 4, on DAY 5 it would weigh 12.
+        HoistsAreShared s = told("n04;ts30;b009;");
+        due(22, "PULL now, not on the next DAY", s.change(), 0);
+        s.loads(0, 14);
+        due(22, "what it weighs now", s.change(), 1);
     }
 
     private static void ballast() {
@@ -738,6 +765,18 @@ public final class PromisesTest {
         due(23, "what 2", x.ballast(0, 30, 2), -2);
         due(23, "what -1", x.ballast(0, 30, -1), -2);
         due(23, "it stays", x.side(0, 1), 10);
+        // A HAT of 9 ON the one: PULL is 10 more, and below 4 with BALLAST 0 of the one or 17 of the other.
+        HoistsAreShared y = told("th90;");
+        due(23, "by what hangs there", y.ballast(0, 3, 0), 0);
+        due(23, "the other's by what hangs there", y.ballast(1, 3, 0), 17);
+        // The other weighs 75: with no BALLAST the one comes down from 20.
+        HoistsAreShared z = told("tw01;tw01;b117;f20;");
+        due(23, "with any held at 20", z.ballast(0, 1, 1), 20);
+        due(23, "with any: the least", z.ballast(0, 1, 0), 0);
+        // The other weighs 57: PULL is -8 with 49, two up, and -7 with 50, one up.
+        HoistsAreShared w = told("tw01;b128;f10;");
+        due(23, "the greatest", w.ballast(0, 1, 0), 50);
+        due(23, "the greatest: how near", w.ballast(0, 1, 1), 2);
     }
 
     private static void mustWeigh() {
@@ -994,6 +1033,11 @@ public final class PromisesTest {
         fillRow(x, 6, 8, 3, 0);
         due(32, "none there", x.judge(), 3);
         due(32, "nothing is counted", x.count(11), 0);
+        HoistsAreShared y = told("n04;ts30;");
+        fillRow(y, 4);
+        due(32, "what it weighs now", y.judge(), -9);
+        fillRow(y, 12);
+        due(32, "not on the next DAY", y.judge(), 0);
     }
 
     private static void clear() {
@@ -1100,6 +1144,8 @@ public final class PromisesTest {
         for (int i = 0; i < 6; i++) {
             due(37, "count(" + (11 + i) + ")", x.count(11 + i), refusals[i]);
         }
+        HoistsAreShared y = told("n04;ts30;");
+        due(37, "what all weigh now", y.count(5), 4);
         int[] others = {-1, 8, 9, 10, 17, 18, Integer.MIN_VALUE, Integer.MIN_VALUE + 9, Integer.MAX_VALUE};
         for (int what : others) {
             due(37, "count(" + what + ")", x.count(what), -9);
