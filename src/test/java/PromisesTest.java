@@ -1,53 +1,5 @@
 /** Each promise of the document by answers that were reckoned by hand. */
-public final class PromisesTest {
-    private static final int FIRST_DOORS = 1 | 1 << 5 | 1 << 15 | 1 << 20;
-    private static final long LONG = 4000000000000000000L;
-    private static int wrong = 0;
-    private static int looked = 0;
-
-    private static void due(int promise, String what, long got, long want) {
-        looked++;
-        if (got != want) {
-            wrong++;
-            System.out.println("promise " + promise + ": " + what + " answered " + got + ", due is " + want);
-        }
-    }
-
-    private static void spell(HoistsAreShared x, String text) {
-        for (int i = 0; i < text.length(); i++) {
-            x.letter(text.charAt(i));
-        }
-    }
-
-    private static int tell(HoistsAreShared x, String text) {
-        spell(x, text);
-        return x.hoist();
-    }
-
-    private static HoistsAreShared told(String text) {
-        HoistsAreShared x = new HoistsAreShared();
-        int answer = tell(x, text);
-        if (answer <= 0) {
-            throw new IllegalStateException("the test's own text has a FAULT: " + text + " " + answer);
-        }
-        return x;
-    }
-
-    private static void passDays(HoistsAreShared x, int days) {
-        int left = days;
-        while (left > 0) {
-            int n = Math.min(left, 60);
-            x.days(n);
-            left -= n;
-        }
-    }
-
-    private static void fillRow(HoistsAreShared x, int... numbers) {
-        for (int v : numbers) {
-            x.row(v);
-        }
-    }
-
+public final class PromisesTest extends Due {
     public static void main(String[] args) {
         newObject();
         letter();
@@ -93,10 +45,7 @@ public final class PromisesTest {
         count();
         beyondTheLastDay();
         refusalsChangeNothing();
-        System.out.println(looked + " answers looked at, " + wrong + " not as due");
-        if (wrong != 0) {
-            System.exit(1);
-        }
+        end();
     }
 
     private static void newObject() {
@@ -931,14 +880,14 @@ public final class PromisesTest {
         HoistsAreShared z = told("b015;");
         due(28, "3 up is none", z.draught(1, 5, 11, 0), 0);
         due(28, "3 up stays", z.draught(1, 5, 10, 1), 5);
-        due(28, "n -1", x.draught(-1, 21, 21, 2), LONG + 4);
-        due(28, "v -1", x.draught(8, 2, -1, 2), LONG + 4);
-        due(28, "t 1", x.draught(8, 1, 21, 2), LONG + 4);
-        due(28, "n 8", x.draught(8, 2, 0, 2), LONG + 6);
-        due(28, "t 21", x.draught(0, 21, 0, 2), LONG + 6);
-        due(28, "v 21", x.draught(0, 2, 21, 2), LONG + 6);
-        due(28, "part 2", x.draught(7, 20, 20, 2), LONG + 2);
-        due(28, "part -1", x.draught(0, 2, 0, -1), LONG + 2);
+        due(28, "n -1", x.draught(-1, 21, 21, 2), LONG_REFUSED + 4);
+        due(28, "v -1", x.draught(8, 2, -1, 2), LONG_REFUSED + 4);
+        due(28, "t 1", x.draught(8, 1, 21, 2), LONG_REFUSED + 4);
+        due(28, "n 8", x.draught(8, 2, 0, 2), LONG_REFUSED + 6);
+        due(28, "t 21", x.draught(0, 21, 0, 2), LONG_REFUSED + 6);
+        due(28, "v 21", x.draught(0, 2, 21, 2), LONG_REFUSED + 6);
+        due(28, "part 2", x.draught(7, 20, 20, 2), LONG_REFUSED + 2);
+        due(28, "part -1", x.draught(0, 2, 0, -1), LONG_REFUSED + 2);
         due(28, "REFUSALS -2", x.count(12), 2);
         due(28, "REFUSALS -4", x.count(14), 3);
         due(28, "REFUSALS -6", x.count(16), 3);
@@ -955,8 +904,8 @@ public final class PromisesTest {
         x.turn(0, 0, 4);
         due(29, "17 by 3, above", x.mean(0), 17);
         due(29, "17 by 3, below", x.mean(1), 3);
-        due(29, "part 2", x.mean(2), LONG + 2);
-        due(29, "part -1", x.mean(-1), LONG + 2);
+        due(29, "part 2", x.mean(2), LONG_REFUSED + 2);
+        due(29, "part -1", x.mean(-1), LONG_REFUSED + 2);
         due(29, "REFUSALS -2", x.count(12), 2);
         HoistsAreShared y = told("tw92;tw92;n40;");
         due(29, "0 by 2, above", y.mean(0), 0);
