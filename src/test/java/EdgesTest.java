@@ -36,6 +36,7 @@ public final class EdgesTest extends Due {
         lotsBySeeds();
         lotsInOrder();
         image();
+        thingsNoMore();
         counts();
         noneIsNoRefusal();
         end();
@@ -596,8 +597,25 @@ public final class EdgesTest extends Due {
         // PULL is -4: either HAT on the other side makes it 0.
         HoistsAreShared v = told("th11;th11;b010;");
         due(22, "the least of those ON the other", v.change(), 1);
-        HoistsAreShared u = told("th92;b014;");
-        due(22, "what is OFF is not hung", u.change(), -9);
+        // PULL 4, 10, 20, -10, -20: a HAT of 10 would do for some, were it ON or hung there.
+        int[][] ballasts = {{14, 10}, {20, 10}, {30, 10}, {10, 20}, {10, 30}};
+        for (int[] both : ballasts) {
+            HoistsAreShared off = told("th92;");
+            off.loads(0, both[0]);
+            off.loads(1, both[1]);
+            due(22, "what is OFF is not hung by " + both[0] + ", " + both[1], off.change(), -9);
+        }
+        // PULL 8; turned into BOOTS of 9 it is 27, and -19 on the other side; as a HAT of 9 14 and -6; of 7 12 and -4.
+        HoistsAreShared turned = told("th30;b014;");
+        due(22, "a HAT of 3", turned.change(), 1);
+        turned.turn(0, 4, 9);
+        due(22, "turned into BOOTS", turned.change(), -9);
+        turned.turn(0, 0, 9);
+        due(22, "turned into a HAT of 9", turned.change(), -9);
+        turned.turn(0, 0, 6);
+        due(22, "turned into a HAT of 6: 11 and -3", turned.change(), 1);
+        turned.hangs(0, 2);
+        due(22, "OFF by now: PULL 4", turned.change(), -9);
     }
 
     // ---- 23, 24, 25: "behind n DAYS (0 .. 30)"
@@ -1055,6 +1073,42 @@ public final class EdgesTest extends Due {
         y.clear();
         due(36, "the letters go on", tell(y, "0;"), 1);
         due(36, "what they told", y.count(2), 20);
+    }
+
+    /** THINGS told behind THE IMAGE are no more ON from it, for whichever call. */
+    private static void thingsNoMore() {
+        HoistsAreShared x = told("th30;");
+        x.image();
+        tell(x, "th31;th32;b150;");
+        due(36, "ON", x.on(), 0);
+        int[] answers = {
+            x.thing(1, 0), x.hangs(1, 0), x.turn(1, 0, 0), x.weighsThen(1, 0), x.mustWeigh(1, 0, 5), x.bestKind(1, 5, 0),
+            x.two(0, 1, 5), x.two(1, 0, 5), x.whatIs(1, 0),
+        };
+        for (int i = 0; i < answers.length; i++) {
+            due(36, "NOBODY, call " + i, answers[i], -1);
+        }
+        due(36, "REFUSALS -1", x.count(11), answers.length);
+        fillRow(x, 4, 4);
+        due(36, "JUDGED: none there", x.judge(), 1);
+        due(36, "no such THING", tell(x, "h10;"), -2000);
+        due(36, "MEAN of one", x.mean(0), 4);
+        due(36, "HEAVIEST", x.heaviest(0), 0);
+        due(36, "THINGS ON the other", x.side(1, 3), 0);
+        due(36, "THINGS OFF", x.count(4), 0);
+        due(36, "PULL", x.pull(0), 4);
+        due(36, "take", x.take(9), 0);
+        due(36, "hang", x.hang(9), -9);
+        due(36, "change", x.change(), -9);
+        due(36, "a THING more", tell(x, "tl12;"), 1);
+        due(36, "it is the second", x.thing(1, 0), 1);
+        due(36, "it can be hung: PULL 0", x.hang(9), 11);
+        // THINGS come on again where they were.
+        HoistsAreShared y = told("th02;th02;");
+        y.image();
+        tell(y, "h00;h10;");
+        y.on();
+        due(36, "OFF again", y.count(4), 3);
     }
 
     // ---- 37: count

@@ -1,3 +1,5 @@
+import com.sun.management.ThreadMXBean;
+import java.lang.management.ManagementFactory;
 import java.lang.reflect.Constructor;
 import java.lang.reflect.Field;
 import java.lang.reflect.Method;
@@ -6,7 +8,6 @@ import java.nio.charset.StandardCharsets;
 import java.nio.file.Files;
 import java.nio.file.Path;
 import java.util.Arrays;
-import java.util.HashSet;
 import java.util.Set;
 import java.util.TreeSet;
 import java.util.regex.Matcher;
@@ -26,12 +27,12 @@ public final class LanguageTest {
     };
     private static final String[] NEVER = {
         "\\bthrow\\b", "\\bthrows\\b", "\\btry\\b", "\\bcatch\\b", "\\bsynchronized\\b", "\\bassert\\b",
-        "->", "::", "\\bimport\\b", "\\bpackage\\b", "\\bnative\\b", "\\bvolatile\\b", "\\bthis\\s*\\)",
+        "->", "::", "\\bimport\\b(?! java\\.util\\.(ArrayList|List|Iterator|Arrays);)", "\\bpackage\\b", "\\bnative\\b", "\\bvolatile\\b", "\\bthis\\s*\\)",
         "\\bstatic\\s*\\{", "\\w+Exact\\b", "\\bObject\\b", "\\bvar\\b", "\\bwhile\\s*\\(\\s*true", "\\bfor\\s*\\(\\s*;",
         "\\bhashCode\\b", "\\btoString\\b", "\"\\s*\\+", "\\+\\s*\"",
     };
-    private static final Set<String> LIBRARY = new HashSet<>(Arrays.asList(
-        "Math.abs", "Math.min", "Math.max", "Integer.bitCount"));
+    private static final Pattern LIBRARY = Pattern.compile("(Math|Integer|Long)\\.(?!toString|valueOf|parse)[a-z]\\w+"
+            + "|(Integer|Long)\\.M(IN|AX)_VALUE|System\\.arraycopy|Arrays\\.(copyOf|copyOfRange|fill)|List\\.of");
     private static int wrong = 0;
 
     private static void must(boolean holds, String rule) {
@@ -59,7 +60,8 @@ public final class LanguageTest {
         text(text);
         String code = withoutComments(text);
         words(code);
-        methods(code);
+        lengths(code);
+        room();
         System.out.println(wrong == 0 ? "the rules are kept" : wrong + " rules are not kept");
         if (wrong != 0) {
             System.exit(1);
@@ -130,12 +132,11 @@ public final class LanguageTest {
         }
         Matcher library = Pattern.compile("\\b(?:Math|Integer|Long|System|Arrays|String|List)\\.\\w+").matcher(code);
         while (library.find()) {
-            must(LIBRARY.contains(library.group()), "not of the library: " + library.group() + " (4)");
+            must(LIBRARY.matcher(library.group()).matches(), "not of the library: " + library.group() + " (4)");
         }
     }
 
-    /** Looks at each method's length, and that nothing is made but in constructors: calls are many in one room. */
-    private static void methods(String code) {
+    private static void lengths(String code) {
         String[] lines = code.split("\n");
         Pattern head = Pattern.compile("^( {4}| {8})(?:[\\w\\[\\]]+ )*(\\w+)\\([^)]*\\) \\{$");
         String name = "";
@@ -148,13 +149,49 @@ public final class LanguageTest {
                 name = m.group(2);
                 start = i;
             }
-            if (lines[i].matches(".*\\bnew\\b.*")) {
-                must(!name.isEmpty() && Character.isUpperCase(name.charAt(0)), "made in a constructor: " + lines[i].trim());
-            }
             if (!name.isEmpty() && lines[i].equals(indent + "}")) {
                 must(i - start < 60, name + " is short (11)");
                 name = "";
             }
         }
+    }
+
+    /** All calls of many objects live in one room: what 500 of the dearest calls make must be next to nothing. */
+    private static void room() {
+        ThreadMXBean threads = (ThreadMXBean) ManagementFactory.getThreadMXBean();
+        HoistsAreShared x = new HoistsAreShared();
+        // The first round may load classes.
+        dearCalls(x);
+        long before = threads.getCurrentThreadAllocatedBytes();
+        for (int round = 0; round < 20; round++) {
+            dearCalls(x);
+        }
+        long made = threads.getCurrentThreadAllocatedBytes() - before;
+        must(made < 1000000, "500 calls make little (12), not " + made + " bytes");
+    }
+
+    private static void dearCalls(HoistsAreShared x) {
+        for (int i = 0; i < 5; i++) {
+            x.letter("th50;".charAt(i));
+        }
+        x.hoist();
+        x.take(30);
+        x.hang(30);
+        x.change();
+        x.ballast(0, 30, 0);
+        x.mustWeigh(0, 0, 30);
+        x.bestKind(0, 30, 0);
+        x.two(0, 1, 30);
+        x.draught(7, 20, 9, 0);
+        x.mean(0);
+        x.row(10);
+        x.whatIs(0, 1);
+        x.judge();
+        x.lots(20, 5, 0);
+        x.strikes(1);
+        x.meets();
+        x.level(60);
+        x.image();
+        x.on();
     }
 }
