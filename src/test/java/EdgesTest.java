@@ -1089,8 +1089,8 @@ public final class EdgesTest extends Due {
             due(36, "NOBODY, call " + i, answers[i], -1);
         }
         due(36, "REFUSALS -1", x.count(11), answers.length);
-        fillRow(x, 4, 4);
-        due(36, "JUDGED: none there", x.judge(), 1);
+        fillRow(x, 4, 0);
+        due(36, "JUDGED: none there, not one that weighs 0", x.judge(), 1);
         due(36, "no such THING", tell(x, "h10;"), -2000);
         due(36, "MEAN of one", x.mean(0), 4);
         due(36, "HEAVIEST", x.heaviest(0), 0);
