@@ -260,7 +260,7 @@ public final class HoistsAreShared {
             return refuse(NOBODY);
         }
         now.foresee(path, FAR);
-        for (int n = 0; n <= FAR; n++) {
+        for (int n = 0; n <= FAR && n < path.length; n++) {
             if (now.isDoor(Hoist.heightOf(side, path[n]))) {
                 return n;
             }
@@ -275,7 +275,7 @@ public final class HoistsAreShared {
         }
         now.foresee(path, n);
         int often = 0;
-        for (int i = 0; i <= n; i++) {
+        for (int i = 0; i <= n && i < path.length; i++) {
             if (path[i] == Hoist.MIDDLE) {
                 often++;
             }
@@ -460,7 +460,7 @@ public final class HoistsAreShared {
         }
         long all = reckonOdds(n, t);
         long high = 0;
-        for (int floor = v; floor <= Hoist.TOP; floor++) {
+        for (int floor = v; floor < odds.length; floor++) {
             high += odds[floor];
         }
         return partOf(high, all, part);
@@ -504,7 +504,7 @@ public final class HoistsAreShared {
 
     public int judge() {
         int judged = NONE;
-        for (int i = 0; i < rowLength && judged == NONE; i++) {
+        for (int i = 0; i < rowLength && i < numbers.length && judged == NONE; i++) {
             if (!now.has(i) || now.weighs(i, 0) != numbers[i]) {
                 judged = i;
             }
@@ -612,7 +612,7 @@ public final class HoistsAreShared {
 
     private int firstAt(int side, int floor) {
         now.foresee(path, FAR);
-        for (int n = 0; n <= FAR; n++) {
+        for (int n = 0; n <= FAR && n < path.length; n++) {
             if (Hoist.heightOf(side, path[n]) == floor) {
                 return n;
             }
@@ -622,7 +622,7 @@ public final class HoistsAreShared {
 
     private int firstStrike() {
         now.foresee(path, FAR);
-        for (int n = 0; n <= FAR; n++) {
+        for (int n = 0; n <= FAR && n < path.length; n++) {
             if (path[n] == 0 || path[n] == Hoist.TOP) {
                 return n;
             }
@@ -633,7 +633,7 @@ public final class HoistsAreShared {
     private int firstStill() {
         now.foresee(path, FAR + STILL_FOR);
         int since = 0;
-        for (int n = 1; n <= FAR + STILL_FOR; n++) {
+        for (int n = 1; n <= FAR + STILL_FOR && n < path.length; n++) {
             if (path[n] != path[n - 1]) {
                 since = n;
             }
@@ -753,11 +753,17 @@ public final class HoistsAreShared {
             nextOdds[floor] = 0;
         }
         for (int floor = 0; floor < odds.length; floor++) {
-            nextOdds[Hoist.moved(floor, pull)] += odds[floor] * (t - 1);
-            nextOdds[Hoist.moved(floor, pull - DRAUGHT_PULL)] += odds[floor];
+            addOdds(Hoist.moved(floor, pull), odds[floor] * (t - 1));
+            addOdds(Hoist.moved(floor, pull - DRAUGHT_PULL), odds[floor]);
         }
         for (int floor = 0; floor < odds.length && floor < nextOdds.length; floor++) {
             odds[floor] = nextOdds[floor];
+        }
+    }
+
+    private void addOdds(int floor, long more) {
+        if (floor >= 0 && floor < nextOdds.length) {
+            nextOdds[floor] += more;
         }
     }
 
@@ -809,7 +815,7 @@ public final class HoistsAreShared {
 
     private boolean isAsRowTells() {
         mind.foresee(path, rowLength - 1);
-        for (int i = 0; i < rowLength && i < numbers.length; i++) {
+        for (int i = 0; i < rowLength && i < numbers.length && i < path.length; i++) {
             if (numbers[i] != path[i]) {
                 return false;
             }
